@@ -94,8 +94,7 @@ public final class ShyBell {
         if (sort == 0 && townReader.read() == NONE) {
             return takeTown();
         }
-        boolean hasRoom = habitCount >= 0 && habitCount < habits.length;
-        return sort == 1 && hasRoom && habitReader.read() == NONE ? takeHabit() : NONE;
+        return sort == 1 && habitReader.read() == NONE ? takeHabit() : NONE;
     }
 
     private int takeTown() {
@@ -341,18 +340,12 @@ public final class ShyBell {
             return NONE;
         }
         trial.prepare(now, n);
-        int best = NONE;
-        int least = 0;
         for (int i = 0; i < town.persons; i++) {
             trial.restart();
             trial.away = 1 << i;
-            int lateness = trial.lateness(0, n);
-            if (best == NONE || lateness < least) {
-                best = i;
-                least = lateness;
-            }
+            trial.offer(i, trial.lateness(0, n));
         }
-        return what == 0 ? best : least;
+        return what == 0 ? trial.best : trial.least;
     }
 
     public int errand(int person, int n, int what) {
@@ -360,18 +353,12 @@ public final class ShyBell {
             return NONE;
         }
         trial.prepare(now, n);
-        int best = NONE;
-        int least = 0;
         for (int from = 0; from < FROMS; from++) {
             trial.restart();
             trial.move(person, from);
-            int lateness = trial.lateness(0, n);
-            if (best == NONE || lateness < least) {
-                best = from;
-                least = lateness;
-            }
+            trial.offer(from, trial.lateness(0, n));
         }
-        return what == 0 ? best : least;
+        return what == 0 ? trial.best : trial.least;
     }
 
     public int note(int minute, boolean is) {
@@ -517,18 +504,12 @@ public final class ShyBell {
             return NONE;
         }
         trial.prepare(now, n);
-        int best = NONE;
-        int least = 0;
         for (int view = 0; view < VIEWS; view++) {
             trial.restart();
             trial.near = town.near(view);
-            int lateness = trial.lateness(0, n);
-            if (best == NONE || lateness < least) {
-                best = view;
-                least = lateness;
-            }
+            trial.offer(view, trial.lateness(0, n));
         }
-        return what == 0 ? best : least;
+        return what == 0 ? trial.best : trial.least;
     }
 
     public int image() {
@@ -1375,6 +1356,8 @@ public final class ShyBell {
         private int looks;
         private int sees;
         private int rang;
+        private int best;
+        private int least;
 
         Trial(Town town, Tower start) {
             this.town = town;
@@ -1384,6 +1367,7 @@ public final class ShyBell {
         /** Trials of so many MINUTES from there. */
         void prepare(Tower start, int n) {
             this.start = start;
+            best = NONE;
             wavering = town.wavering();
             for (int k = 0; k < n && k < steady.length; k++) {
                 steady[k] = town.lookers(start.minute + k, 0, ~wavering);
@@ -1445,6 +1429,14 @@ public final class ShyBell {
                 sum += tower.owes[bell];
             }
             return sum;
+        }
+
+        /** What is offered first of those with the least LATE is kept as the best. */
+        void offer(int which, int lateness) {
+            if (best == NONE || lateness < least) {
+                best = which;
+                least = lateness;
+            }
         }
 
         /** Whether BELL 0 rings in none of them, while these LOOK in all. */

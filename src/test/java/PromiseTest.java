@@ -175,6 +175,15 @@ public final class PromiseTest {
         due("one more", x.feed(1, 0, 0, 0, 0), NONE);
         due("still 160", x.count(3), 160);
         due("its end", x.fault(0), 160);
+        for (int i = 0; i < 5; i++) {
+            int[] n = new int[5];
+            n[i] = 0x70707070;
+            x.end(157);
+            due("four more in number " + i, x.feed(n[0], n[1], n[2], n[3], n[4]), NONE);
+            due("nothing came", x.count(3), 157);
+            n[i] = 0x70007070;
+            due("three more in number " + i, x.feed(n[0], n[1], n[2], n[3], n[4]), 160);
+        }
     }
 
     private static void end() {
