@@ -987,10 +987,13 @@ public final class ShyBell {
         /** WORTH, where the letters are so much. */
         int worth(int[] letters) {
             int top = 0;
+            boolean isPassedOver = false;
             for (int at = 0; at < length && at < codes.length; at++) {
                 int code = codes[at];
                 int letter = FIRST_LETTER - code;
-                if (code >= 0 || letter >= 0 && letter < LETTERS && letter < letters.length) {
+                if (isPassedOver) {
+                    isPassedOver = code != END;
+                } else if (code >= 0 || letter >= 0 && letter < LETTERS && letter < letters.length) {
                     if (top < lying.length) {
                         lying[top] = code >= 0 ? code : letters[letter];
                         top++;
@@ -1003,22 +1006,13 @@ public final class ShyBell {
                     lying[top - 1] = lying[top - 1] == 0 ? 1 : 0;
                 } else if (code == IF) {
                     top--;
-                    at = lying[top] == 0 ? endBehind(at) : at;
+                    isPassedOver = lying[top] == 0;
                 } else if (top > 1) {
                     top--;
                     lying[top - 1] = joined(code, lying[top - 1], lying[top]);
                 }
             }
             return 0;
-        }
-
-        private int endBehind(int at) {
-            for (int i = at; i >= 0 && i < length && i < codes.length; i++) {
-                if (codes[i] == END) {
-                    return i;
-                }
-            }
-            return length;
         }
 
         private static int joined(int code, long left, long right) {
