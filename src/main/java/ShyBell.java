@@ -165,7 +165,7 @@ public final class ShyBell {
     }
 
     private boolean setHabit(int person, int v) {
-        if (v < NONE || v >= habitCount) {
+        if (v < NONE || v >= habitCount || v >= habits.length) {
             return false;
         }
         town.habits[person] = v == NONE ? null : habits[v];
@@ -549,7 +549,7 @@ public final class ShyBell {
     }
 
     private boolean isPerson(int person) {
-        return person >= 0 && person < town.persons;
+        return person >= 0 && person < town.persons && person < MOST_PERSONS;
     }
 
     private boolean isSpanPerson(int person) {
@@ -557,7 +557,7 @@ public final class ShyBell {
     }
 
     private boolean isBell(int bell) {
-        return bell >= 0 && bell < town.bellCount;
+        return bell >= 0 && bell < town.bellCount && bell < MOST_BELLS;
     }
 
     private static boolean isAhead(int n) {
@@ -1055,10 +1055,10 @@ public final class ShyBell {
 
         void copy(Town other) {
             clear();
-            for (int i = 0; i < other.persons; i++) {
+            for (int i = 0; i < other.persons && i < MOST_PERSONS; i++) {
                 copyRow(other.people[i], addPerson());
             }
-            for (int i = 0; i < other.bellCount; i++) {
+            for (int i = 0; i < other.bellCount && i < MOST_BELLS; i++) {
                 copyRow(other.bells[i], addBell());
             }
             if (other.hasFog) {
@@ -1116,15 +1116,23 @@ public final class ShyBell {
             return period > 0 && Math.floorMod(minute - from, period) < along;
         }
 
+        private boolean livesHere(int person) {
+            return person >= 0 && person < persons && person < MOST_PERSONS;
+        }
+
+        private boolean hangsHere(int bell) {
+            return bell >= 0 && bell < bellCount && bell < MOST_BELLS;
+        }
+
         boolean spanIsOn(int person, int from, int minute) {
-            if (person < 0 || person >= persons) {
+            if (!livesHere(person)) {
                 return false;
             }
             return isOn(minute, from, people[person][LONG], people[person][PERIOD]);
         }
 
         boolean doesLook(int person, int minute, int owed) {
-            if (person < 0 || person >= persons) {
+            if (!livesHere(person)) {
                 return false;
             }
             Habit habit = habits[person];
@@ -1144,7 +1152,7 @@ public final class ShyBell {
         /** Of these PERSONS (bits) those who LOOK. */
         int lookers(int minute, int owed, int who) {
             int found = 0;
-            for (int i = 0; i < persons; i++) {
+            for (int i = 0; i < persons && i < MOST_PERSONS; i++) {
                 if ((who >> i & 1) != 0 && doesLook(i, minute, owed)) {
                     found |= 1 << i;
                 }
@@ -1159,7 +1167,7 @@ public final class ShyBell {
 
         int near(int view) {
             int found = 0;
-            for (int i = 0; i < persons; i++) {
+            for (int i = 0; i < persons && i < MOST_PERSONS; i++) {
                 if (people[i][DISTANCE] <= view) {
                     found |= 1 << i;
                 }
@@ -1170,7 +1178,7 @@ public final class ShyBell {
         /** The PERSONS whose LOOKS hang on what BELL 0 owes. */
         int wavering() {
             int found = 0;
-            for (int i = 0; i < persons; i++) {
+            for (int i = 0; i < persons && i < MOST_PERSONS; i++) {
                 Habit habit = habits[i];
                 if (habit != null && habit.heedsOwed()) {
                     found |= 1 << i;
@@ -1182,7 +1190,7 @@ public final class ShyBell {
         /** The BELLS that a PERSON can hear. */
         int reaching(int person) {
             int found = 0;
-            for (int i = 0; i < bellCount && person >= 0 && person < persons; i++) {
+            for (int i = 0; i < bellCount && i < MOST_BELLS && livesHere(person); i++) {
                 if (people[person][DISTANCE] <= bells[i][REACH]) {
                     found |= 1 << i;
                 }
@@ -1191,7 +1199,7 @@ public final class ShyBell {
         }
 
         int due(int bell, int minute) {
-            if (bell < 0 || bell >= bellCount) {
+            if (!hangsHere(bell)) {
                 return 0;
             }
             int period = bells[bell][HOUR];
@@ -1204,7 +1212,7 @@ public final class ShyBell {
 
         /** What a BELL that owes so many (those due too) owes behind the MINUTE. */
         int leftBehind(int bell, int owing, boolean isSeen) {
-            if (bell < 0 || bell >= bellCount || owing < 1) {
+            if (!hangsHere(bell) || owing < 1) {
                 return owing;
             }
             boolean isVain = bells[bell][KIND] == 1;

@@ -1,16 +1,7 @@
 import java.math.BigInteger;
-import java.util.NoSuchElementException;
 
 /** For each promise what the document tells of it, its edges, and what is refused; the answers are worked out by hand. */
-public final class PromiseTest {
-    private static final int NONE = -1;
-    private static final int HIDDEN = -1000000;
-    private static final int LEAST = Integer.MIN_VALUE;
-    private static final int MOST = Integer.MAX_VALUE;
-
-    private static int wrong;
-    private static int promise;
-
+public final class PromiseTest extends Check {
     public static void main(String[] args) {
         newObject();
         feed();
@@ -58,67 +49,11 @@ public final class PromiseTest {
         back();
         count();
         apart();
-        System.out.println(wrong == 0 ? "promises: all as due" : "promises: " + wrong + " not as due");
-        System.exit(wrong == 0 ? 0 : 1);
-    }
-
-    private static void due(String what, long got, long want) {
-        if (got != want) {
-            wrong++;
-            System.out.println("promise " + promise + ": " + what + " answered " + got + ", due is " + want);
-        }
-    }
-
-    private static void due(String what, boolean got, boolean want) {
-        due(what, got ? 1 : 0, want ? 1 : 0);
-    }
-
-    /** The text comes to the TAPE, twenty bytes a call. */
-    private static void tape(ShyBell x, String text) {
-        for (int at = 0; at < text.length(); at += 20) {
-            int[] n = new int[5];
-            for (int i = 0; i < 20 && at + i < text.length(); i++) {
-                n[i / 4] |= (text.charAt(at + i) & 255) << 24 - 8 * (i % 4);
-            }
-            x.feed(n[0], n[1], n[2], n[3], n[4]);
-        }
-    }
-
-    private static ShyBell town(String text) {
-        ShyBell x = new ShyBell();
-        tape(x, text);
-        due("text(0) of " + text, x.text(0) > 0, true);
-        return x;
-    }
-
-    private static int habit(ShyBell x, String text) {
-        tape(x, text);
-        return x.text(1);
-    }
-
-    private static void fault(int sort, String text, int want) {
-        ShyBell x = new ShyBell();
-        tape(x, text);
-        due("fault(" + sort + ") of \"" + text + "\"", x.fault(sort), want);
-        due("bytes behind fault", x.count(3), text.length());
-    }
-
-    private static void personThrows(ShyBell x, int person, int what) {
-        boolean thrown = false;
-        try {
-            x.person(person, what);
-        } catch (NoSuchElementException e) {
-            thrown = true;
-        }
-        due("person(" + person + ", " + what + ") throws", thrown, true);
-    }
-
-    private static String many(String part, int times) {
-        return part.repeat(times);
+        finish("promises");
     }
 
     private static void newObject() {
-        promise = 1;
+        at("promise 1");
         ShyBell x = new ShyBell();
         for (int what = 0; what <= 7; what++) {
             due("count(" + what + ") of a new one", x.count(what), 0);
@@ -156,7 +91,7 @@ public final class PromiseTest {
     }
 
     private static void feed() {
-        promise = 2;
+        at("promise 2");
         ShyBell x = new ShyBell();
         due("nothing", x.feed(0, 0, 0, 0, 0), 0);
         due("bytes of 0 left out", x.feed(0x70003b00, 0, 0x00000062, 0, 0), 3);
@@ -187,7 +122,7 @@ public final class PromiseTest {
     }
 
     private static void end() {
-        promise = 3;
+        at("promise 3");
         ShyBell x = new ShyBell();
         due("all of none", x.end(0), true);
         due("one of none", x.end(1), false);
@@ -205,7 +140,7 @@ public final class PromiseTest {
     }
 
     private static void townFaults() {
-        promise = 4;
+        at("promise 4");
         fault(-1, "", -2);
         fault(2, "p;b", -2);
         fault(0, "", 0);
@@ -245,7 +180,7 @@ public final class PromiseTest {
     }
 
     private static void townLimits() {
-        promise = 4;
+        at("promise 4");
         String[] bounds = {"p f 0 59", "p l 0 60", "p q 1 60", "p d 0 9",
             "g f 0 59", "g l 0 60", "g q 1 60", "g v 0 9", "b h 5 60", "b k 0 1", "b r 0 9"};
         for (String bound : bounds) {
@@ -276,7 +211,7 @@ public final class PromiseTest {
     }
 
     private static void habitFaults() {
-        promise = 4;
+        at("promise 4");
         fault(1, "", 0);
         fault(1, "y", 1);
         fault(1, "y:", 2);
@@ -338,7 +273,7 @@ public final class PromiseTest {
     }
 
     private static void habitNesting() {
-        promise = 4;
+        at("promise 4");
         fault(1, "y:" + many("[", 6) + "1" + many("]", 6), NONE);
         fault(1, "y:" + many("[", 7), 8);
         fault(1, "y:" + many("(", 6) + "1=1" + many(")", 6) + "?1", NONE);
@@ -355,7 +290,7 @@ public final class PromiseTest {
     }
 
     private static void text() {
-        promise = 5;
+        at("promise 5");
         ShyBell x = new ShyBell();
         due("a FAULT", x.text(0), NONE);
         tape(x, "p;p;b");
@@ -380,7 +315,7 @@ public final class PromiseTest {
     }
 
     private static void textForgets() {
-        promise = 5;
+        at("promise 5");
         ShyBell x = town("p;bh10");
         habit(x, "y:0");
         x.set(0, 3, 0);
@@ -423,7 +358,7 @@ public final class PromiseTest {
     }
 
     private static void person() {
-        promise = 6;
+        at("promise 6");
         ShyBell x = town("pf3l2q10d4;p;gf4l1v3;b");
         int[] told = {3, 2, 10, 4, NONE, 0, 0};
         int[] untold = {0, 5, 20, 1, NONE, 1, 1};
@@ -480,7 +415,7 @@ public final class PromiseTest {
     }
 
     private static void worth() {
-        promise = 5;
+        at("promise 5");
         due("0", looksBy("y:0", 0), false);
         due("1", looksBy("y:1", 0), true);
         due("below 0", looksBy("y:1-2", 0), false);
@@ -506,7 +441,7 @@ public final class PromiseTest {
     }
 
     private static void conditions() {
-        promise = 5;
+        at("promise 5");
         due("holds", looksBy("y:1=1?1", 0), true);
         due("holds not: 0 without", looksBy("y:1=2?1", 0), false);
         due("the first that holds", looksBy("y:1=2?1;y:1=1?0;y:1", 0), false);
@@ -531,7 +466,7 @@ public final class PromiseTest {
     }
 
     private static void letters() {
-        promise = 6;
+        at("promise 6");
         for (int minute : new int[] {0, 1, 9, 10, 25, 240}) {
             isWorth("t", minute, minute);
             isWorth("h", minute, minute / 10);
@@ -553,7 +488,7 @@ public final class PromiseTest {
     }
 
     private static void habitInPlaceOfSpan() {
-        promise = 9;
+        at("promise 9");
         ShyBell x = town("p;bh10");
         habit(x, "y:t=5?1");
         due("LOOKS by its span", x.person(0, 5), 1);
@@ -565,7 +500,7 @@ public final class PromiseTest {
     }
 
     private static void bell() {
-        promise = 7;
+        at("promise 7");
         ShyBell x = town("p;bh7k1r3;b");
         int[] told = {7, 1, 3, 0, 0};
         int[] untold = {20, 0, 9, 0, 0};
@@ -586,7 +521,7 @@ public final class PromiseTest {
     }
 
     private static void twelve() {
-        promise = 12;
+        at("promise 12");
         ShyBell x = town("pl60q1;bh5");
         int owed = 0;
         for (int hour = 0; hour <= 26; hour++) {
@@ -600,7 +535,7 @@ public final class PromiseTest {
     }
 
     private static void fog() {
-        promise = 8;
+        at("promise 8");
         ShyBell x = town("p;gf50l20q60v2;b");
         due("on across the PERIOD's end", x.fog(0), 1);
         due("MINUTE 9", x.fog(9), 1);
@@ -619,7 +554,7 @@ public final class PromiseTest {
     }
 
     private static void set() {
-        promise = 9;
+        at("promise 9");
         ShyBell x = town("p;p;b");
         habit(x, "y:1");
         habit(x, "y:0");
@@ -652,7 +587,7 @@ public final class PromiseTest {
     }
 
     private static void risk() {
-        promise = 10;
+        at("promise 10");
         ShyBell x = town("pl0;bh10");
         due("below 0", x.risk(-1), false);
         due("101", x.risk(101), false);
@@ -674,7 +609,7 @@ public final class PromiseTest {
     }
 
     private static void seed() {
-        promise = 11;
+        at("promise 11");
         for (long seed : new long[] {0, 1, -1, 12345678901234L, Long.MIN_VALUE, Long.MAX_VALUE}) {
             for (int risk : new int[] {1, 30, 50, 60}) {
                 ShyBell x = town("pl0;bh5k1");
@@ -711,7 +646,7 @@ public final class PromiseTest {
     }
 
     private static void go() {
-        promise = 12;
+        at("promise 12");
         ShyBell x = town("p;bh10;bh10k1");
         due("0", x.go(0), NONE);
         due("-1", x.go(-1), NONE);
@@ -737,7 +672,7 @@ public final class PromiseTest {
     }
 
     private static void undo() {
-        promise = 13;
+        at("promise 13");
         ShyBell x = town("pl0;bh10");
         due("none", x.undo(), NONE);
         x.seed(4);
@@ -775,7 +710,7 @@ public final class PromiseTest {
     }
 
     private static void ahead() {
-        promise = 14;
+        at("promise 14");
         ShyBell x = town("p;bh10;bh10k1");
         due("owed behind 1", x.ahead(0, 1, 0), 12);
         due("rung behind 1", x.ahead(0, 1, 1), 0);
@@ -797,7 +732,7 @@ public final class PromiseTest {
     }
 
     private static void strike() {
-        promise = 15;
+        at("promise 15");
         ShyBell x = town("p;bh10");
         due("first", x.strike(0, 0), 5);
         due("twelfth", x.strike(0, 11), 16);
@@ -817,7 +752,7 @@ public final class PromiseTest {
     }
 
     private static void late() {
-        promise = 16;
+        at("promise 16");
         ShyBell x = town("p;bh10;bh10k1");
         due("behind 1", x.late(0, 1), 12);
         due("behind 5", x.late(0, 5), 60);
@@ -834,7 +769,7 @@ public final class PromiseTest {
     }
 
     private static void bunch() {
-        promise = 17;
+        at("promise 17");
         ShyBell x = town("pf3l1q60;bh20;bh20k1");
         due("three", x.bunch(0, 3), 3);
         due("cut in MINUTE 3", x.bunch(0, 4), 3);
@@ -849,7 +784,7 @@ public final class PromiseTest {
     }
 
     private static void ears() {
-        promise = 18;
+        at("promise 18");
         ShyBell x = town("pl2d3;pl0d4;bh10r3;bh10k1r9");
         due("both", x.ears(0, 4), 4);
         due("too far from BELL 0", x.ears(1, 4), 2);
@@ -861,7 +796,7 @@ public final class PromiseTest {
     }
 
     private static void seen() {
-        promise = 19;
+        at("promise 19");
         ShyBell x = town("p;pf7l3q20d2;gf8l1v1;b");
         due("0 to 4, 7, 9", x.seen(20, 0), 7);
         due("10 to 19", x.seen(20, 1), 10);
@@ -877,7 +812,7 @@ public final class PromiseTest {
     }
 
     private static void turn() {
-        promise = 20;
+        at("promise 20");
         ShyBell x = town("pl20;pl20;pl20;bh20");
         due("all of them", x.turn(12), 7);
         due("too few MINUTES", x.turn(11), NONE);
@@ -898,7 +833,7 @@ public final class PromiseTest {
     }
 
     private static void stare() {
-        promise = 21;
+        at("promise 21");
         ShyBell x = town("pl0;pl0;bh20");
         due("one: the least", x.stare(5), 1);
         due("0", x.stare(0), NONE);
@@ -915,7 +850,7 @@ public final class PromiseTest {
     }
 
     private static void lovers() {
-        promise = 22;
+        at("promise 22");
         ShyBell x = town("p;pf3l4q20;b");
         due("first", x.lovers(0, 1, 20, 0), 7);
         due("how many", x.lovers(0, 1, 20, 1), 13);
@@ -936,7 +871,7 @@ public final class PromiseTest {
     }
 
     private static void spoil() {
-        promise = 23;
+        at("promise 23");
         ShyBell x = town("pl1q60;pf1l4q60;bh20");
         due("PERSON", x.spoil(10, 0), 1);
         due("LATE: 12, then 11 to 3", x.spoil(10, 1), 75);
@@ -952,7 +887,7 @@ public final class PromiseTest {
     }
 
     private static void errand() {
-        promise = 24;
+        at("promise 24");
         ShyBell x = town("pl5q60;bh60");
         due("behind the twelve", x.errand(0, 20, 0), 12);
         due("11 + 10 + .. + 0", x.errand(0, 20, 1), 66);
@@ -977,7 +912,7 @@ public final class PromiseTest {
     }
 
     private static void note() {
-        promise = 25;
+        at("promise 25");
         ShyBell x = town("p;b");
         due("below 0", x.note(-1, true), NONE);
         due("61", x.note(61, true), NONE);
@@ -992,7 +927,7 @@ public final class PromiseTest {
     }
 
     private static void times() {
-        promise = 26;
+        at("promise 26");
         ShyBell x = town("p;bh10");
         due("nothing NOTED", x.times(NONE), 480);
         due("the first", x.times(0), 0);
@@ -1021,7 +956,7 @@ public final class PromiseTest {
     }
 
     private static void whose() {
-        promise = 27;
+        at("promise 27");
         ShyBell x = town("pl5q60;pl0;bh60");
         due("nothing NOTED", x.whose(0, NONE), 60);
         x.note(0, true);
@@ -1048,7 +983,7 @@ public final class PromiseTest {
     }
 
     private static void odds() {
-        promise = 28;
+        at("promise 28");
         ShyBell x = town("pl0;bh60");
         due("0", x.odds(0), NONE);
         due("-1", x.odds(-1), NONE);
@@ -1085,7 +1020,7 @@ public final class PromiseTest {
     }
 
     private static void peak() {
-        promise = 29;
+        at("promise 29");
         ShyBell x = town("pf5l55q60;bh20");
         due("most", x.peak(0, 20, 0), 11);
         due("first behind 1", x.peak(0, 20, 1), 1);
@@ -1106,7 +1041,7 @@ public final class PromiseTest {
     }
 
     private static void free() {
-        promise = 30;
+        at("promise 30");
         ShyBell x = town("pl0;bh60;bh60k1");
         due("behind 12", x.free(0), 12);
         due("never", x.free(1), NONE);
@@ -1128,7 +1063,7 @@ public final class PromiseTest {
     }
 
     private static void alone() {
-        promise = 31;
+        at("promise 31");
         ShyBell x = town("p;pf3l4q20;pf20l1q40d5;gf20l1v4;b");
         due("0 to 2", x.alone(0, 20), 3);
         due("5, 6", x.alone(1, 20), 2);
@@ -1141,7 +1076,7 @@ public final class PromiseTest {
     }
 
     private static void hour() {
-        promise = 32;
+        at("promise 32");
         ShyBell x = town("p;bh10;bk1h10");
         due("the next MINUTE is a full HOUR", x.hour(0, 0), 16);
         due("one more", x.hour(0, 1), 17);
@@ -1166,7 +1101,7 @@ public final class PromiseTest {
     }
 
     private static void veil() {
-        promise = 33;
+        at("promise 33");
         ShyBell x = town("pl60q1d5;pl60q1d3;gl60q60v9;bh60");
         due("VIEW", x.veil(12, 0), 0);
         due("LATE: 11 + .. + 0", x.veil(12, 1), 66);
@@ -1184,7 +1119,7 @@ public final class PromiseTest {
     }
 
     private static void image() {
-        promise = 34;
+        at("promise 34");
         ShyBell x = town("pl0;bh10");
         due("MINUTE 0", x.image(), 0);
         x.go(5);
@@ -1198,7 +1133,7 @@ public final class PromiseTest {
     }
 
     private static void back() {
-        promise = 35;
+        at("promise 35");
         ShyBell x = town("pl0;bh10");
         due("none", x.back(), NONE);
         x.seed(6);
@@ -1227,7 +1162,7 @@ public final class PromiseTest {
     }
 
     private static void count() {
-        promise = 36;
+        at("promise 36");
         ShyBell x = town("p;p;p;gv4;b;b");
         habit(x, "y:1");
         tape(x, "abc");
@@ -1248,7 +1183,7 @@ public final class PromiseTest {
 
     /** What is only asked changes nothing. */
     private static void apart() {
-        promise = 14;
+        at("promise 14");
         ShyBell x = town("p;pf3l2;gv4;bh10;bh7k1");
         ShyBell y = town("p;pf3l2;gv4;bh10;bh7k1");
         for (ShyBell each : new ShyBell[] {x, y}) {
