@@ -971,6 +971,7 @@ public final class MinuteBoundsTest extends Check {
         late.go(53);
         late.set(0, 0, 59);
         due("two are due in MINUTE 120, PERSON 0 LOOKS in 119", late.odds(2), 0);
+        due("both ring, in MINUTES 120 and 121", late.odds(3), PARTS);
         late.set(0, 0, 1);
         due("PERSON 0 LOOKS in MINUTE 121", late.odds(3), 0);
         due("the last rings in MINUTE 122", late.odds(4), PARTS);
@@ -1190,13 +1191,14 @@ public final class MinuteBoundsTest extends Check {
 
     private static void apartFromEachOther() {
         at("All of these apart, from as it is");
-        ShyBell x = gone("pf2l1q30;pf7l2q60;gv0;bh60;bh60k1", 12);
+        ShyBell x = gone("pf2l1q30;pf7l2q60;gf20v0;bh60;bh60k1", 12);
+        due("three are owed", x.bell(0, 3), 3);
         int[] first = answers(x);
         // Each is asked again behind all others, and from a MINUTE that none of them was asked from.
         int[] second = answers(x);
         x.go(3);
         int[] later = answers(x);
-        int[] fresh = answers(gone("pf2l1q30;pf7l2q60;gv0;bh60;bh60k1", 15));
+        int[] fresh = answers(gone("pf2l1q30;pf7l2q60;gf20v0;bh60;bh60k1", 15));
         for (int i = 0; i < first.length; i++) {
             due("answer " + i + " again", second[i], first[i]);
             due("answer " + i + " later", later[i], fresh[i]);
