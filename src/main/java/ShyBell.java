@@ -108,7 +108,7 @@ public final class ShyBell {
     }
 
     private int takeHabit() {
-        if (habitCount < 0 || habitCount >= habits.length) {
+        if (habitCount < 0 || habitCount >= habits.length || habits[habitCount] == null) {
             return NONE;
         }
         tape.length = 0;
@@ -1287,18 +1287,21 @@ public final class ShyBell {
             if (next < 0 || next >= towers.length) {
                 next = 0;
             }
-            towers[next].copy(tower);
-            next = next + 1 < towers.length ? next + 1 : 0;
-            length = Math.min(length + 1, towers.length);
+            if (towers[next] != null) {
+                towers[next].copy(tower);
+                next = next + 1 < towers.length ? next + 1 : 0;
+                length = Math.min(length + 1, towers.length);
+            }
         }
 
         boolean restore(Tower tower) {
-            if (length < 1) {
+            int latest = next > 0 && next <= towers.length ? next - 1 : towers.length - 1;
+            if (length < 1 || latest < 0 || towers[latest] == null) {
                 return false;
             }
             length--;
-            next = next > 0 && next <= towers.length ? next - 1 : towers.length - 1;
-            tower.copy(towers[next]);
+            next = latest;
+            tower.copy(towers[latest]);
             return true;
         }
     }
